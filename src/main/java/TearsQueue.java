@@ -13,6 +13,8 @@ public final class TearsQueue {
     private static final int MOST_MINUTE = 999;
     private static final int MOST_ROOM = 5;
     private static final int MOST_THINK = 9;
+    private static final int FIRST_ROOM = 2;
+    private static final int FIRST_THINK = 4;
     private static final int MOST_SEEN = 6;
     private static final int TAPE_SIZE = 160;
     private static final int SHEET_SIZE = 40;
@@ -586,25 +588,19 @@ public final class TearsQueue {
         int people;
         int goneBits;
         int minute;
-        int room;
-        int think;
+        int room = FIRST_ROOM;
+        int think = FIRST_THINK;
         int actCount;
         int weepers;
         int weepings;
-        int passedOver;
-
-        Evening() {
-            room = 2;
-            think = 4;
-            passedOver = NONE;
-        }
+        int passedOver = NONE;
 
         void clear() {
             people = 0;
             goneBits = 0;
             minute = 0;
-            room = 2;
-            think = 4;
+            room = FIRST_ROOM;
+            think = FIRST_THINK;
             actCount = 0;
             clearTally();
         }
@@ -690,10 +686,10 @@ public final class TearsQueue {
             return number;
         }
 
-        void addOne(int ofKind) {
+        void addOne(int ofKind, int withSorrow) {
             if (people < MOST_PEOPLE) {
                 kind[people] = ofKind;
-                sorrow[people] = 0;
+                sorrow[people] = withSorrow;
                 weptIn[people] = NEVER;
                 people++;
             }
@@ -716,7 +712,7 @@ public final class TearsQueue {
             }
         }
 
-        /** False: the act is of a ONE that there is not. */
+        /** False: an act is of a ONE that there is not. */
         boolean allActsFit() {
             for (int i = 0; i < actCount; i++) {
                 if (!isAct(acts[i])) {
@@ -917,11 +913,8 @@ public final class TearsQueue {
                 fail(5, start);
                 return;
             }
-            draft.addOne(kind);
             takeToken();
-            if (sort == NUMBER) {
-                draft.sadden(draft.people - 1, takeNumber(0, MOST_SORROW));
-            }
+            draft.addOne(kind, sort == NUMBER ? takeNumber(0, MOST_SORROW) : 0);
         }
 
         void tellSetting(int line) {

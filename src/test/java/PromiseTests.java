@@ -1,6 +1,7 @@
 /** For each promise: ordinary inputs, the edges that the document names, wrong inputs. */
 public final class PromiseTests {
     private static final int BAD = -1, STATE = -2, FULL = -3, NONE = -4;
+    /** No call takes these for a number of any kind. */
     private static final int[] WRONG = {-1, Integer.MIN_VALUE, Integer.MAX_VALUE};
     private static final String BUSY = "plain 7;soft 2;sham 3;dry;plain 9;think 3;plan 0 1 5 6 4 2 2 6;";
 
@@ -277,6 +278,11 @@ public final class PromiseTests {
         queueIs(x, 4, 0, 2, 3, 1);
         x.tram();
         queueIs(x, 2, 3, 1);
+        TearsQueue shams = Checks.told("sham;sham 1;dry;");
+        shams.thinks(1);
+        queueIs(shams, 0, 2, 1);
+        shams.minutes(2);
+        queueIs(shams, 2, 0, 1);
         due(9, "queue(5)", x.queue(5), BAD);
         for (int i : WRONG) {
             due(9, "queue", x.queue(i), BAD);
