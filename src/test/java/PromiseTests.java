@@ -46,6 +46,7 @@ public final class PromiseTests {
         readPutsBack();
         torn();
         count();
+        full();
         Checks.finish();
     }
 
@@ -143,6 +144,9 @@ public final class PromiseTests {
         text("7;", -10, 2);
         text("plains;", -10, 2);
         text("pla in;", -10, 2);
+        text("xlain;", -10, 2);
+        text("az;", -10, 2);
+        text("za{;", -10, 2);
         text("dog ?", -10, 2);
         text("soft;dog", -15, 2);
         text("room;", -14, 2);
@@ -191,6 +195,25 @@ public final class PromiseTests {
         due(4, "back(0)", x.back(0), STATE);
         due(4, "one(0, 2)", x.one(0, 2), NONE);
         due(4, "one(0, 4)", x.one(0, 4), 0);
+        Checks.feedAll(x, "room 5;think 9;plan 5;");
+        x.text();
+        Checks.feedAll(x, "soft;");
+        due(4, "text()", x.text(), 1);
+        due(4, "rule(2), 2 at first", x.rule(2), 2);
+        due(4, "rule(3), 4 at first", x.rule(3), 4);
+        due(4, "rule(4)", x.rule(4), 0);
+        bytesCutOffAreNotRead(x);
+    }
+
+    private static void bytesCutOffAreNotRead(TearsQueue x) {
+        String[] texts = {"plain 12;", "plain;", "plain;   ", "plain;"};
+        int[] kept = {7, 3, 6, 0};
+        int[] answers = {-17, -10, 1, 0};
+        for (int i = 0; i < texts.length; i++) {
+            Checks.feedAll(x, texts[i]);
+            x.end(kept[i]);
+            due(4, "text() of the first " + kept[i] + " of '" + texts[i] + "'", x.text(), answers[i]);
+        }
     }
 
     private static void refusedTextChangesNothing() {
@@ -530,6 +553,7 @@ public final class PromiseTests {
         bestIs(x, 1, 1, 0);
         bestIs(x, 2, 2, 0, 1);
         bestIs(x, 2, 2, 0, 0, 1);
+        bestIs(x, 1, 1, 0);
         bestIs(new TearsQueue(), 0, 0, 5, 5, 5, 5);
         // The sham weeps by each thinking; the soft one by the second.
         bestIs(Checks.told("soft;sham 2;"), 2, 5, 0, 0, 1, 1);
@@ -563,6 +587,13 @@ public final class PromiseTests {
         due(24, "home(3, 0), by no three", x.home(3, 0), NONE);
         due(24, "home(3, 10)", x.home(3, 10), NONE);
         homeIs(Checks.told("plain;plain;room 1;"), 1, 1, 1, 1);
+        // The sham ahead weeps, and has frost then.
+        homeIs(Checks.told("sham 3;plain;room 1;"), 1, 0);
+        homeIs(Checks.told("sham 3;plain 8;plain;room 1;think 1;"), 1, 1, 1);
+        // A minute would leave frost on both shams; no thinkings do.
+        due(24, "home(2, 0)", Checks.told("sham 1;sham 1;dry;dry;dry;room 1;").home(2, 0), NONE);
+        // He never weeps without the one ahead, who is the first by order.
+        due(24, "home(1, 0)", Checks.told("soft 4;soft 4;sham 3;room 1;").home(1, 0), NONE);
         // The neighbour's weeping takes the second one along.
         homeIs(Checks.told("dry;soft 1;plain 8;room 2;"), 2, 1);
         due(24, "home(0, 1)", x.home(0, 1), BAD);
@@ -618,6 +649,8 @@ public final class PromiseTests {
         luckIs(x, 3, 1, 7, 10);
         luckIs(x, 3, 0, 3, 10);
         luckIs(x, 5, 1, 1, 2);
+        luckIs(x, 1, 1, 9, 10);
+        luckIs(x, 9, 1, 1, 10);
         luckIs(x, 10, 1, 0, 1);
         luckIs(Checks.told("plain;plain 9;room 1;think 1;plan 1 1 1 1 1 1 1 6;"), 9, 1, 5217031, 10000000);
         due(27, "luck(11, 0, 0)", x.luck(11, 0, 0), BAD);
@@ -637,6 +670,9 @@ public final class PromiseTests {
             due(28, "mean(v, 0)", x.mean(v, 0), 2);
             due(28, "mean(v, 1)", x.mean(v, 1), 1);
         }
+        TearsQueue five = Checks.told(BUSY);
+        due(28, "mean(7, 0), of five", five.mean(7, 0), 4);
+        due(28, "mean(7, 1), of five", five.mean(7, 1), 1);
         x.cut(1);
         due(28, "mean(3, 0)", x.mean(3, 0), 0);
         due(28, "mean(3, 1)", x.mean(3, 1), 1);
@@ -730,9 +766,11 @@ public final class PromiseTests {
         due(34, "drift(1, 0, 0), BAD ahead of STATE", nobody.drift(1, 0, 0), BAD);
         int[] seeds = {0, 1, 7, -3, Integer.MAX_VALUE, Integer.MIN_VALUE, 123456789};
         for (int seed : seeds) {
-            driftIs(seed, 1);
-            driftIs(seed, 17);
-            driftIs(seed, 60);
+            driftIs(BUSY, 5, seed, 1);
+            driftIs(BUSY, 5, seed, 17);
+            driftIs(BUSY, 5, seed, 60);
+            driftIs("plain 5;soft 3;", 2, seed, 40);
+            driftIs("dry;", 1, seed, 30);
         }
         TearsQueue x = Checks.told("soft;");
         due(34, "drift(1, 61, 0)", x.drift(1, 61, 0), BAD);
@@ -747,15 +785,16 @@ public final class PromiseTests {
     }
 
     /** The same acts done by the calls of another object. */
-    private static void driftIs(int seed, int n) {
-        TearsQueue x = Checks.told(BUSY);
-        TearsQueue y = Checks.told(BUSY);
+    private static void driftIs(String text, int people, int seed, int n) {
+        TearsQueue x = Checks.told(text);
+        TearsQueue y = Checks.told(text);
+        int sorrow = x.rule(6);
         long state = seed;
         int weepings = 0;
         for (int i = 0; i < n; i++) {
             state = (state * 1103515245L + 12345L) & 0xffffffffL;
-            int pick = (int) ((state >> 16) % 32768 % 6);
-            if (pick == 5) {
+            int pick = (int) ((state >> 16) % 32768 % (people + 1));
+            if (pick == people) {
                 y.minutes(1);
             } else {
                 weepings += Integer.bitCount(y.thinks(pick));
@@ -763,7 +802,7 @@ public final class PromiseTests {
         }
         due(34, "drift(" + seed + ", " + n + ", 0)", x.drift(seed, n, 0), weepings);
         due(34, "drift(" + seed + ", " + n + ", 1)", x.drift(seed, n, 1), y.queue(0));
-        due(34, "rule(6), nothing is done", x.rule(6), 21);
+        due(34, "rule(6), nothing is done", x.rule(6), sorrow);
     }
 
     private static void images() {
@@ -831,6 +870,13 @@ public final class PromiseTests {
         due(37, "sheet(0, 1, 0), no cells but a row", x.sheet(0, 1, 0), 1);
         due(37, "count(3)", x.count(3), 0);
         due(37, "lay(0, 0, 1)", x.lay(0, 0, 1), -12);
+        TearsQueue people = Checks.told("dry;dry;");
+        people.sheet(3, 0, 2);
+        people.lay(3, 0, 1);
+        people.lay(3, 1, 1);
+        people.sheet(3, 0, 2);
+        due(37, "read, its cells are 0", people.read(3, 0, 0, 2), 2);
+        due(37, "one(0, 1)", people.one(0, 1), 8);
     }
 
     private static void lay() {
@@ -934,6 +980,31 @@ public final class PromiseTests {
         due(40, "torn()", x.torn(), 2);
         x.read(0, 0, 2, 0);
         due(40, "torn(), nothing was to be read", x.torn(), 0);
+    }
+
+    /** As many as there may be: PEOPLE, ACTS, bytes. */
+    private static void full() {
+        TearsQueue x = Checks.told("soft 4;soft 4;soft 4;soft 4;soft 4;plan 0 5 6 1 6 2 6 6;");
+        due(33, "ask(0, 0)", x.ask(0, 0), NONE);
+        due(20, "runs(1)", x.runs(1), 31);
+        due(23, "best(4, 0)", x.best(4, 0), 5);
+        due(15, "thinks(4)", x.thinks(4), 31);
+        due(41, "count(4)", x.count(4), 5);
+        due(41, "count(5)", x.count(5), 4);
+        due(16, "minutes(1)", x.minutes(1), 0 + 1 + 1 + 1 + 1);
+        queueIs(x, 0, 1, 2, 3, 4);
+        due(26, "enough()", x.enough(), 2);
+        StringBuilder lines = new StringBuilder("plan;");
+        while (lines.length() < 160) {
+            lines.append(' ');
+        }
+        text(lines.toString(), 1, 0);
+        lines.setCharAt(159, 'z');
+        text(lines.toString(), -169, 2);
+        lines.setCharAt(159, '7');
+        text(lines.toString(), -169, 2);
+        lines.setCharAt(159, '?');
+        text(lines.toString(), -169, 1);
     }
 
     private static void count() {
