@@ -637,7 +637,7 @@ public final class TearsQueue {
         }
 
         boolean waits(int p) {
-            return isThere(p) && (goneBits >> p & 1) == 0;
+            return p >= 0 && p < people && (goneBits >> p & 1) == 0;
         }
 
         boolean isAct(int act) {
@@ -794,7 +794,7 @@ public final class TearsQueue {
         }
 
         void sadden(int p, int parts) {
-            if (isThere(p)) {
+            if (p >= 0 && p < people) {
                 sorrow[p] = Math.min(MOST_SORROW, sorrow[p] + parts);
             }
         }
@@ -849,7 +849,7 @@ public final class TearsQueue {
     /** THE TAPE, and the reading of it into a draft that counts only when it has no fault. */
     private static final class Tape {
         static final int END = 0, NAME = 1, NUMBER = 2, SEMICOLON = 3, BROKEN = 4;
-        static final int ROOM_LINE = 4, THINK_LINE = 5, PLAN_LINE = 6, NO_LINE = 7;
+        static final int ROOM_LINE = 4, THINK_LINE = 5, NO_LINE = 7;
 
         final byte[] bytes = new byte[TAPE_SIZE];
         final Evening draft = new Evening();
@@ -903,7 +903,13 @@ public final class TearsQueue {
             } else {
                 settingsTold |= 1 << line;
                 takeToken();
-                tellSetting(line);
+                if (line == ROOM_LINE) {
+                    draft.room = takeNumber(1, MOST_ROOM);
+                } else if (line == THINK_LINE) {
+                    draft.think = takeNumber(1, MOST_THINK);
+                } else {
+                    tellPlan();
+                }
             }
             takeSemicolon();
         }
@@ -915,16 +921,6 @@ public final class TearsQueue {
             }
             takeToken();
             draft.addOne(kind, sort == NUMBER ? takeNumber(0, MOST_SORROW) : 0);
-        }
-
-        void tellSetting(int line) {
-            if (line == ROOM_LINE) {
-                draft.room = takeNumber(1, MOST_ROOM);
-            } else if (line == THINK_LINE) {
-                draft.think = takeNumber(1, MOST_THINK);
-            } else {
-                tellPlan();
-            }
         }
 
         void tellPlan() {
@@ -978,36 +974,30 @@ public final class TearsQueue {
                 place++;
             }
             start = place;
-            if (place >= length) {
-                sort = END;
-            } else if (isLetter(bytes[place])) {
-                sort = NAME;
-                takeLetters();
-            } else if (isFigure(bytes[place])) {
-                takeFigures();
-            } else {
-                sort = bytes[place] == ';' ? SEMICOLON : BROKEN;
+            value = 0;
+            sort = place < length ? sortOf(bytes[place]) : END;
+            boolean isLong = sort == NAME || sort == NUMBER;
+            while (place < length && (isLong ? sortOf(bytes[place]) == sort : place == start)) {
+                // Only a number of two figures is asked for its value: what else it may become is free.
+                value = value * 10 + (bytes[place] - '0');
                 place++;
+            }
+            if (sort == NUMBER && place - start > 2) {
+                sort = BROKEN;
             }
             if (sort == BROKEN) {
                 fail(1, start);
             }
         }
 
-        void takeLetters() {
-            while (place < length && isLetter(bytes[place])) {
-                place++;
+        static int sortOf(int c) {
+            if (c >= 'a' && c <= 'z') {
+                return NAME;
             }
-        }
-
-        void takeFigures() {
-            value = 0;
-            while (place < length && isFigure(bytes[place])) {
-                // What is too long is refused anyway, so its value may wrap around.
-                value = value * 10 + (bytes[place] - '0');
-                place++;
+            if (c >= '0' && c <= '9') {
+                return NUMBER;
             }
-            sort = place - start > 2 ? BROKEN : NUMBER;
+            return c == ';' ? SEMICOLON : BROKEN;
         }
 
         int lineBegun() {
@@ -1044,14 +1034,6 @@ public final class TearsQueue {
                 }
             }
             return true;
-        }
-
-        static boolean isLetter(int c) {
-            return c >= 'a' && c <= 'z';
-        }
-
-        static boolean isFigure(int c) {
-            return c >= '0' && c <= '9';
         }
     }
 
@@ -1122,7 +1104,9 @@ public final class TearsQueue {
             }
             int people = levels[0].people;
             for (int choice = 0; choice <= people; choice++) {
-                takeStep(depth, choice < people ? choice : MINUTE_GOES);
+                row[depth] = choice < people ? choice : MINUTE_GOES;
+                levels[depth + 1].copyFrom(levels[depth]);
+                levels[depth + 1].play(row[depth]);
                 tryRows(depth + 1, n);
             }
         }
@@ -1141,24 +1125,21 @@ public final class TearsQueue {
         private boolean isHome(int depth, int n, int p) {
             if (depth >= n || depth >= MOST_HOME) {
                 // The tram comes on the next level: this one may be the start of longer rows.
-                takeStep(depth, TRAM_COMES);
+                levels[depth + 1].copyFrom(levels[depth]);
+                levels[depth + 1].board();
                 keepRow(depth);
                 return !levels[depth + 1].waits(p);
             }
             int people = levels[0].people;
             for (int choice = 0; choice < people; choice++) {
-                takeStep(depth, choice);
+                row[depth] = choice;
+                levels[depth + 1].copyFrom(levels[depth]);
+                levels[depth + 1].play(choice);
                 if (isHome(depth + 1, n, p)) {
                     return true;
                 }
             }
             return false;
-        }
-
-        private void takeStep(int depth, int act) {
-            levels[depth + 1].copyFrom(levels[depth]);
-            levels[depth + 1].play(act);
-            row[depth] = act;
         }
 
         private void keepRow(int length) {
