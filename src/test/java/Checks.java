@@ -6,6 +6,10 @@ final class Checks {
     private Checks() {
     }
 
+    static int asked() {
+        return asked;
+    }
+
     static void due(int promise, String call, long got, long want) {
         asked++;
         if (got != want) {
