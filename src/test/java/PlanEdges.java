@@ -458,6 +458,10 @@ public final class PlanEdges {
         x.tram();
         luckIs(x, 5, 0, 1, 1);
         luckIs(x, 5, 1, 0, 1);
+        TearsQueue cut = Checks.told("dry;dry;plan 0 6 0 6;");
+        cut.cut(1);
+        luckIs(cut, 5, 0, 0, 1);
+        due("mean(5, 0), the TRAMS are cut off", cut.mean(5, 0), 0);
         Sentences.onlyAsks("luck(3, 1, 0)", y -> y.luck(3, 1, 0));
         Sentences.onlyAsks("luck(3, 1, 1)", y -> y.luck(3, 1, 1));
     }

@@ -404,6 +404,8 @@ public final class SheetEdges {
         }
         x.cut(3);
         due("count(5), without those cut off", x.count(5), 2);
+        due("count(5), the first and the last too", Checks.told("plan 6 5 6;").count(5), 2);
+        due("count(5), at most", Checks.told("plan 6 6 6 6 6 6 6 6;").count(5), 8);
     }
 
     @Says(of = 41, value = "BAD.")

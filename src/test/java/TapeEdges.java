@@ -149,9 +149,10 @@ public final class TapeEdges {
 
     @Says("K: plain | soft | sham | dry")
     static void kindNames() {
-        String[] none = {"plai", "plainn", "lain", "sof", "softs", "sha", "shame", "sham0a", "dr", "dryy", "ryd"};
+        String[] none = {"plai", "plainn", "lain", "xlain", "plaix", "sof", "softs", "xoft", "soff", "sha", "shame", "xham",
+            "shan", "dr", "dryy", "ryd", "xry", "drx"};
         for (String name : none) {
-            text(name + ";", name.equals("sham0a") ? -15 : -10, 2);
+            text(name + ";", -10, 2);
         }
         text("dry;sham;soft;plain;", 4, 0);
     }
@@ -265,6 +266,9 @@ public final class TapeEdges {
         text("dog;", -10, 2);
         text("plain;dog;", -16, 2);
         text("p;", -10, 2);
+        text("xoom 1;", -10, 2);
+        text("xhink 1;", -10, 2);
+        text("xlan;", -10, 2);
         text("rooms 1;", -10, 2);
         text("roo 1;", -10, 2);
         text("thinks 1;", -10, 2);

@@ -261,6 +261,11 @@ public final class TermsEdges {
         due("thinks(0), by another THINKING he WEEPS", x.thinks(0), 3);
         due("one(1, 1)", x.one(1, 1), 2);
         due("one(2, 1)", x.one(2, 1), 2);
+        TearsQueue y = Checks.told("soft 3;sham;soft 3;dry;dry;");
+        due("thinks(1), with others who do not WEEP", y.thinks(1), 7);
+        due("one(1, 1), he is not asked again", y.one(1, 1), 4);
+        due("one(0, 1)", y.one(0, 1), 0);
+        due("one(2, 1)", y.one(2, 1), 0);
     }
 
     @Says("the first of these WEEPS: he WEPT in this MINUTE, his SORROW is 0,")
