@@ -220,6 +220,8 @@ public final class PlanEdges {
                 due("best(" + n + ", " + (10 + i) + ")", x.best(n, 10 + i), i < n ? 0 : NONE);
             }
         }
+        due("best(4, 14), no bound of i is told", Checks.told("sham;").best(4, 14), NONE);
+        due("best(0, MAX)", Checks.told("sham;").best(0, Integer.MAX_VALUE), NONE);
         Sentences.onlyAsks("best(3, 12)", y -> y.best(3, 12));
     }
 
